@@ -16,6 +16,7 @@ public final class RandomRunsTest {
     private final int payments;
     private final int highestPayment;
     private final int passing;
+    private final int seldom;
     private String fault;
 
     private RandomRunsTest(long seed) {
@@ -24,6 +25,7 @@ public final class RandomRunsTest {
         payments = 1 + random.nextInt(6);
         highestPayment = random.nextBoolean() ? 600 : 9999;
         passing = random.nextInt(4);
+        seldom = random.nextInt(10) == 0 ? 6 : 200;
     }
 
     public static void main(String[] args) {
@@ -71,7 +73,7 @@ public final class RandomRunsTest {
         if (oneIn(40)) {
             return random.nextBoolean() ? low - 1 : high + 1;
         }
-        if (oneIn(200)) {
+        if (oneIn(seldom)) {
             int[] far = {Integer.MIN_VALUE, Integer.MAX_VALUE, Integer.MIN_VALUE + 1, -1, -2, 256, 65536,
                 random.nextInt()};
             return far[random.nextInt(far.length)];
@@ -157,7 +159,7 @@ public final class RandomRunsTest {
     }
 
     private void entitle(String name) {
-        int from = about(0, 39);
+        int from = oneIn(3) ? 0 : oneIn(3) ? about(0, Math.min(39, model.about(0))) : about(0, 39);
         int to = oneIn(4) ? -1 : oneIn(8) ? about(0, 39) : about(Math.min(Math.max(from, 0), 39), 39);
         make(name, someChild(), from, to);
     }

@@ -94,6 +94,11 @@ final class Run {
         return this;
     }
 
+    /** Another new object on which the same calls were made. */
+    MealAccounts again() {
+        return again(made);
+    }
+
     private String make(Call call) {
         if (made.size() >= MOST_MADE) {
             throw new AssertionError(title + " has too many calls");
