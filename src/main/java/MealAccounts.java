@@ -676,8 +676,13 @@ public final class MealAccounts {
 
         int passDays(int n) {
             int served = 0;
-            for (int i = 0; i < n; i++) {
-                served += passDay();
+            for (int i = 0; i < n && today < DAYS; i++) {
+                for (int c = 0; c < children; c++) {
+                    if (meals.kindOf(c, today) == ORDERED && serve(c)) {
+                        served++;
+                    }
+                }
+                today++;
             }
             return served;
         }
@@ -694,17 +699,7 @@ public final class MealAccounts {
 
         // Serving.
 
-        private int passDay() {
-            int served = 0;
-            for (int c = 0; c < children; c++) {
-                if (meals.kindOf(c, today) == ORDERED && serve(c)) {
-                    served++;
-                }
-            }
-            today++;
-            return served;
-        }
-
+        /** False if the meal of today is not served. */
         private boolean serve(int c) {
             int payer = payerOn(c, today);
             if (payer == NONE) {
@@ -906,7 +901,13 @@ public final class MealAccounts {
         }
 
         int countAll(int kind) {
-            return countSince(0, kind);
+            int count = 0;
+            for (int place = 0; place < PLACES; place++) {
+                if (kinds[place] == kind) {
+                    count++;
+                }
+            }
+            return count;
         }
 
         int countServed() {

@@ -172,6 +172,8 @@ public final class ActionsTest {
         run.did(250, "entitle", 0, 0, 0).asked(1000, "child", 0, 2).asked(0, "child", 0, 7);
         run.did(-250, "entitle", 1, 1, 1).asked(-250, "child", 1, 2).asked(1, "meal", 1, 1, 0);
         run.due(1, "days", 1).asked(3, "meal", 1, 1, 0).asked(1000, "child", 0, 2);
+        // When the last day has gone by, too.
+        run.due(0, "days", 38).did(250, "entitle", 1, 0, 1).did(-500, "entitle", 1, 39, 39);
     }
 
     private static void promise18WrongInputs() {
@@ -207,6 +209,9 @@ public final class ActionsTest {
         for (int f : new int[] {-1, 5, LOWEST, HIGHEST}) {
             run.refused(INDEX, "writeOff", f);
         }
+        Run first = new Run("promise 19, family 0");
+        first.due(0, "come", 0, 0).due(1, "order", 0, 0, true).due(1, "days", 1).did(250, "writeOff", 0);
+        first.asked(250, "about", 10).asked(250, "family", 0, 4).refused(STATE, "writeOff", 0);
         // What was written off is paid back all the same, if it becomes free.
         run.did(250, "entitle", 0, 0, 39).asked(250, "child", 0, 2).asked(750, "family", 4, 4);
     }

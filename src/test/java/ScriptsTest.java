@@ -19,6 +19,7 @@ public final class ScriptsTest {
         promise28WrongInputs();
         promise29Simulate();
         promise29OneTurn();
+        promise29TwoTurns();
         promise29WrongInputs();
         Run.end();
     }
@@ -224,6 +225,33 @@ public final class ScriptsTest {
         for (int kind = 0; kind < 16; kind++) {
             int due = kind >= 12 && kind <= 14 ? 1001 : 0;
             run.asked(due, "simulate", seedOf(kind), 1).asked(due, "simulate", seedOf(kind + 16 * 77777777L), 1);
+        }
+    }
+
+    private static int r(long seed, int turn) {
+        long x = seed;
+        for (int i = 0; i <= turn; i++) {
+            x = x * 6364136223846793005L + 1442695040888963407L;
+        }
+        return (int) (x >>> 33);
+    }
+
+    /** A payment and then a day, with the very price that this payment can meet, and one more. */
+    private static void promise29TwoTurns() {
+        int[] tested = new int[2];
+        for (long seed = 0; seed < 3000 && (tested[0] < 3 || tested[1] < 3); seed++) {
+            int kind = r(seed, 0) % 16 - 7;
+            int amount = 1 + r(seed, 0) / 16384 % 999;
+            boolean isDayNext = r(seed, 1) % 16 >= 12 && r(seed, 1) % 16 <= 14;
+            if ((kind == 0 || kind == 1) && isDayNext && tested[kind] < 3 && amount < 999) {
+                tested[kind]++;
+                Run run = new Run("promise 29, two turns, seed " + seed);
+                run.due(0, "come", 0, 0).due(500, "set", 1, 0).due(1, "order", 0, 0, true).due(250, "set", 0, amount);
+                run.asked(1000, "simulate", seed, 2).due(amount, "set", 0, amount + 1).asked(1, "simulate", seed, 2);
+            }
+        }
+        if (tested[0] < 3 || tested[1] < 3) {
+            throw new AssertionError("too few such seeds were found");
         }
     }
 
