@@ -11,6 +11,7 @@ final class Call {
 
     private final String name;
     private final Object[] arguments;
+    private String text;
 
     private Call(String name, Object[] arguments) {
         this.name = name;
@@ -68,7 +69,10 @@ final class Call {
 
     @Override
     public String toString() {
-        String listed = Arrays.toString(arguments);
-        return name + "(" + listed.substring(1, listed.length() - 1) + ")";
+        if (text == null) {
+            String listed = Arrays.toString(arguments);
+            text = name + "(" + listed.substring(1, listed.length() - 1) + ")";
+        }
+        return text;
     }
 }

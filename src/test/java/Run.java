@@ -10,17 +10,23 @@ final class Run {
     static final Class<?> INDEX = IndexOutOfBoundsException.class;
     static final Class<?> ARGUMENT = IllegalArgumentException.class;
     static final Class<?> STATE = IllegalStateException.class;
+    /** Stands for each of some values in the arguments of a call. */
+    static final Object EACH = new Object();
 
     private static final int CALLS = 512;
-    /** Fewer than an object allows, so that some questions can follow. */
-    private static final int MOST_MADE = 400;
+    /** What is seen after a run takes up to 15 calls more of one object. */
+    private static final int MOST_VIEWED = CALLS - 15;
     private static final int MOST_REMEMBERED = 14;
     private static final List<Call> QUESTIONS = questions();
+    private static final List<List<Call>> QUESTIONS_OF_CHILDREN = questionsOfChildren();
     private static int wrong;
 
     private final String title;
     private final MealAccounts accounts = new MealAccounts();
     private final List<Call> made = new ArrayList<>();
+    /** What was seen after so many calls. */
+    private List<String> seen;
+    private int seenAt = -1;
 
     Run(String title) {
         this.title = title;
@@ -33,24 +39,44 @@ final class Run {
 
     /** Makes a call, and tests its answer. */
     Run due(long answer, String name, Object... arguments) {
-        make(String.valueOf(answer), Call.of(name, arguments));
+        make(String.valueOf(answer), Call.of(name, arguments), true);
         return this;
     }
 
     /** A call that answers, and changes nothing. */
     Run asked(long answer, String name, Object... arguments) {
-        List<String> before = view(made);
-        due(answer, name, arguments);
-        same("changed something", before, view(made));
+        make(String.valueOf(answer), Call.of(name, arguments), false);
+        return this;
+    }
+
+    /** The same for each of these values. */
+    Run askedEach(long answer, int[] values, String name, Object... arguments) {
+        for (int value : values) {
+            asked(answer, name, with(value, arguments));
+        }
         return this;
     }
 
     /** A call that throws exactly this, and changes nothing. */
     Run refused(Class<?> exception, String name, Object... arguments) {
-        List<String> before = view(made);
-        make(Call.thrown(exception), Call.of(name, arguments));
-        same("changed something", before, view(made));
+        make(Call.thrown(exception), Call.of(name, arguments), false);
         return this;
+    }
+
+    /** The same for each of these values. */
+    Run refusedEach(Class<?> exception, int[] values, String name, Object... arguments) {
+        for (int value : values) {
+            refused(exception, name, with(value, arguments));
+        }
+        return this;
+    }
+
+    private static Object[] with(int value, Object[] arguments) {
+        Object[] filled = arguments.clone();
+        for (int i = 0; i < filled.length; i++) {
+            filled[i] = filled[i] == EACH ? (Object) value : filled[i];
+        }
+        return filled;
     }
 
     /** An action: it answers, one more state is remembered (at most 14), and undo takes it back. */
@@ -94,24 +120,48 @@ final class Run {
         return this;
     }
 
+    /** A run of its own that tests the same. */
+    Run another() {
+        return new Run(title);
+    }
+
+    /** What the model answers to this behind the calls of this run. */
+    long byModel(String name, Object... arguments) {
+        Model model = new Model();
+        for (Call call : made) {
+            call.on(model);
+        }
+        return Long.parseLong(Call.of(name, arguments).on(model));
+    }
+
     /** Another new object on which the same calls were made. */
     MealAccounts again() {
         return again(made);
     }
 
     private String make(Call call) {
-        if (made.size() >= MOST_MADE) {
-            throw new AssertionError(title + " has too many calls");
-        }
+        few(made, CALLS - 1);
         made.add(call);
         return call.on(accounts);
     }
 
-    private void make(String due, Call call) {
+    private void make(String due, Call call, boolean mayChange) {
+        List<String> before = mayChange ? null : seen();
         String got = make(call);
         if (!got.equals(due)) {
             tell(call + " answered " + got + ", due is " + due);
         }
+        if (!mayChange) {
+            same("changed something", before, seen());
+        }
+    }
+
+    private List<String> seen() {
+        if (seenAt != made.size()) {
+            seen = view(made);
+            seenAt = made.size();
+        }
+        return seen;
     }
 
     private void same(String what, List<String> before, List<String> after) {
@@ -130,6 +180,18 @@ final class Run {
         System.out.println(title + ", call " + made.size() + ": " + fault);
     }
 
+    private static void few(List<Call> calls, int most) {
+        if (calls.size() > most) {
+            throw new AssertionError("too many calls: " + calls.size());
+        }
+    }
+
+    /** A fault of a test that is no run. */
+    static void fault(String fault) {
+        wrong++;
+        System.out.println(fault);
+    }
+
     private static MealAccounts again(List<Call> calls) {
         MealAccounts accounts = new MealAccounts();
         for (Call call : calls) {
@@ -140,6 +202,7 @@ final class Run {
 
     /** All that can be asked: the state, the text, the remembered states and the save slots. */
     private static List<String> view(List<Call> calls) {
+        few(calls, MOST_VIEWED);
         List<String> view = state(calls);
         view.add("remembered: " + remembered(calls));
         MealAccounts undone = again(calls);
@@ -161,16 +224,41 @@ final class Run {
     }
 
     private static List<String> state(List<Call> calls) {
-        List<String> answers = new ArrayList<>();
-        int asked = 0;
-        while (asked < QUESTIONS.size()) {
-            MealAccounts accounts = again(calls);
-            for (int made = calls.size(); made < CALLS && asked < QUESTIONS.size(); made++) {
-                ask(accounts, QUESTIONS.get(asked), answers);
-                asked++;
+        Inquiry inquiry = new Inquiry(calls);
+        for (Call question : QUESTIONS) {
+            inquiry.ask(question);
+        }
+        for (List<Call> ofChild : QUESTIONS_OF_CHILDREN) {
+            if (inquiry.ask(ofChild.get(0)).equals(Call.thrown(INDEX))) {
+                break;
+            }
+            for (Call question : ofChild) {
+                inquiry.ask(question);
             }
         }
-        return answers;
+        return inquiry.answers;
+    }
+
+    /** Asks question after question behind the same calls, on as many objects as that takes. */
+    private static final class Inquiry {
+        final List<String> answers = new ArrayList<>();
+        private final List<Call> calls;
+        private MealAccounts accounts;
+        private int callsLeft;
+
+        Inquiry(List<Call> calls) {
+            few(calls, CALLS - 1);
+            this.calls = calls;
+        }
+
+        String ask(Call question) {
+            if (callsLeft == 0) {
+                accounts = again(calls);
+                callsLeft = CALLS - calls.size();
+            }
+            callsLeft--;
+            return Run.ask(accounts, question, answers);
+        }
     }
 
     private static int remembered(List<Call> calls) {
@@ -188,8 +276,10 @@ final class Run {
         }
     }
 
-    private static void ask(MealAccounts accounts, Call question, List<String> answers) {
-        answers.add(question + " = " + question.on(accounts));
+    private static String ask(MealAccounts accounts, Call question, List<String> answers) {
+        String answer = question.on(accounts);
+        answers.add(question + " = " + answer);
+        return answer;
     }
 
     private static List<Call> questions() {
@@ -209,15 +299,22 @@ final class Run {
                 questions.add(Call.of("day", d, what));
             }
         }
+        return questions;
+    }
+
+    private static List<List<Call>> questionsOfChildren() {
+        List<List<Call>> questions = new ArrayList<>();
         for (int c = 0; c < 12; c++) {
+            List<Call> ofChild = new ArrayList<>();
             for (int what = 0; what <= 8; what++) {
-                questions.add(Call.of("child", c, what));
+                ofChild.add(Call.of("child", c, what));
             }
             for (int d = 0; d < 40; d++) {
                 for (int what = 0; what <= 2; what++) {
-                    questions.add(Call.of("meal", c, d, what));
+                    ofChild.add(Call.of("meal", c, d, what));
                 }
             }
+            questions.add(ofChild);
         }
         return questions;
     }
