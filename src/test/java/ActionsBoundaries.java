@@ -477,6 +477,11 @@ final class ActionsBoundaries extends Boundaries {
         run.due(5, "pay", 0, 5).due(3, "undo").asked(0, "child", 0, 2).asked(1, "setting", 0).due(2, "undo");
         run.asked(250, "setting", 0).asked(2, "about", 1).due(1, "undo").asked(1, "about", 1).due(0, "undo");
         run.stateLike(new Run("a new object"));
+        // What a meal cost and who paid, when it has become free and was charged anew since.
+        Run paid = children(run.another(), 0, 0).due(500, "set", 1, 0).due(0, "share", 0, true).due(250, "pay", 1, 250);
+        orders(paid, 0, 0).due(1, "days", 1).due(250, "entitle", 0, 0, 0).due(250, "set", 0, 300);
+        paid.due(-300, "entitle", 0, 1, 1).asked(0, "meal", 0, 0, 2).due(9, "undo").due(8, "undo").due(7, "undo");
+        paid.asked(1, "meal", 0, 0, 2).asked(250, "meal", 0, 0, 1).did(250, "entitle", 0, 0, 0).asked(250, "child", 1, 2);
         // The first child, day and family as well as the last ones.
         Run edges = children(run.another(), 0, 0, 0, 0, 0, 0, 0, 0, 0, 0, 0).did(11, "come", 4, 3).did(1, "order", 0, 0, true);
         edges.did(1, "order", 11, 39, true).did(0, "menu", 0, 3).did(0, "menu", 39, 3).did(0, "share", 0, true);

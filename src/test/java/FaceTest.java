@@ -102,21 +102,15 @@ public final class FaceTest {
 
     private static void source() throws IOException {
         String source = Files.readString(SOURCE).replaceAll("(?s)/\\*.*?\\*/|//[^\n]*", "");
-        for (String line : source.split("\n")) {
-            if (line.startsWith("import ")) {
-                test(line.equals("import java.util.Arrays;"), line);
-            }
-        }
-        String[] ruledOut = {"->", "::", "\\bfinally\\b", "\\bcatch\\b", "\\bsynchronized\\b", "\\bassert\\b",
-            "\\bpackage\\b", "\\bequals\\b", "\\bhashCode\\b", "\\btoString\\b", "Exact\\b", "\\bSystem\\.(?!arraycopy)",
+        String library = "java\\.util\\.(Arrays|ArrayList|List|Iterator|NoSuchElementException);";
+        String exceptions = "(IllegalState|IllegalArgument|IndexOutOfBounds|Arithmetic|UnsupportedOperation|NoSuchElement|Runtime)"
+                + "Exception\\b";
+        String[] ruledOut = {"\\bimport (?!" + library + ")", "\\bthrow (?!new " + exceptions + ")",
+            "\\bcatch \\((?!" + exceptions + ")", "(?m)^(?!\\s*(case|default)\\b).*->", "::", "\\bfinally\\b",
+            "\\bsynchronized\\b", "\\bassert\\b", "\\bpackage\\b", "Exact\\b", "\\bSystem\\.(?!arraycopy)",
             "static \\{", "[^\\x00-\\x7f]"};
         for (String pattern : ruledOut) {
             test(!Pattern.compile(pattern).matcher(source).find(), "the source has " + pattern);
-        }
-        Matcher thrown = Pattern.compile("throw new (\\w+)").matcher(source);
-        while (thrown.find()) {
-            test(Set.of("IndexOutOfBoundsException", "IllegalArgumentException", "IllegalStateException")
-                    .contains(thrown.group(1)), "the source throws " + thrown.group(1));
         }
     }
 }

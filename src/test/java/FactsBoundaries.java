@@ -22,6 +22,7 @@ final class FactsBoundaries extends Boundaries {
         balanceOfAChild();
         entitlementOfAChild();
         mealsOfAChild();
+        mealsOfNeighbours();
         chargedToAChild();
         refusedOfAChild();
         noSuchChild();
@@ -247,6 +248,17 @@ final class FactsBoundaries extends Boundaries {
         ordersFromTo(all, 0, 0, 39).due(40, "share", 0, true).due(40, "days", 40).asked(40, "child", 0, 5);
         all.asked(40, "child", 0, 6).asked(0, "child", 1, 5).asked(0, "child", 1, 6).due(1, "entitle", 0, 0, 0);
         all.asked(39, "child", 0, 6).due(0, "entitle", 0, 39, 39).asked(38, "child", 0, 6).asked(40, "child", 0, 5);
+    }
+
+    private static void mealsOfNeighbours() {
+        Run run = promise(7, "5: the meals that it was served so far; 6: how many of these are charged to siblings now;");
+        for (int c = 0; c < 12; c++) {
+            orders(run.due(c, "come", c % 5, 0), c, 0, 39);
+        }
+        run.due(24, "days", 40);
+        for (int c = 0; c < 12; c++) {
+            run.asked(2, "child", c, 5).asked(0, "child", c, 6).asked(500, "child", c, 7).asked(0, "child", c, 8);
+        }
     }
 
     private static void chargedToAChild() {

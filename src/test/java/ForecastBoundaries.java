@@ -239,6 +239,10 @@ final class ForecastBoundaries extends Boundaries {
         Run back = children(run.another(), 0, 0, 1).due(500, "set", 1, 500).due(0, "share", 0, true);
         orders(back, 0, 0, 1).due(2, "days", 2).due(0, "pay", 0, 500).due(500, "set", 1, 0);
         orders(orders(back, 1, 38, 39), 2, 39).asked(0, "bestEntitled").due(0, "share", 0, false).asked(1, "bestEntitled");
+        // It is paid back to the sibling that paid, which has then enough for its own meal.
+        Run sibling = children(run.another(), 0, 0, 1).due(500, "set", 1, 0).due(0, "share", 0, true).due(250, "pay", 1, 250);
+        orders(sibling, 0, 0).due(1, "days", 1).due(0, "share", 0, false);
+        orders(orders(sibling, 1, 39), 2, 39).asked(0, "bestEntitled");
     }
 
     private static void onAllDays() {

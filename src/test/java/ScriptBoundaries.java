@@ -123,6 +123,10 @@ final class ScriptBoundaries extends Boundaries {
         succeed(run, 3, 300000700003700052L, 300040700003700052L, 300050700003700053L, 300390700003700053L);
         run.due(500, "set", 1, 0);
         succeed(run, 3, 301390600034701393L, 301380600034701394L);
+        // It is paid back to the sibling that paid.
+        Run paid = children(run.another(), 0, 0).due(500, "set", 1, 0).due(0, "share", 0, true).due(250, "pay", 1, 250);
+        orders(paid, 0, 0).due(1, "days", 1).due(0, "share", 0, false).due(1, "order", 1, 1, true);
+        succeed(paid, 3, 300000600001701012L, 600001700002701014L);
         // From day 0 on, whatever it was before.
         run.due(250, "entitle", 0, 5, 39);
         succeed(run, 3, 300040700003700052L, 300000700003700052L);
@@ -563,6 +567,11 @@ final class ScriptBoundaries extends Boundaries {
         simulated(back, 1, turn(9, 9, 16, 2, 0, 256, 40, 1), DAY);
         simulated(back, 1000, turn(9, 9, 16, 2, 1, 256, 40, 1), DAY);
         simulated(back, 1, turn(9, 9, 16, 2, 1, 256, 40, 2), DAY);
+        // It is paid back to the sibling that paid, which has then enough for its own meal.
+        Run paid = children(promise(29, sentence), 0, 0).due(500, "set", 1, 0).due(0, "share", 0, true).due(250, "pay", 1, 250);
+        paid.due(1, "order", 0, 0, true).due(1, "days", 1).due(0, "share", 0, false).due(1, "order", 1, 1, true);
+        simulated(paid, 1000, turn(9, 9, 16, 2, 0, 256, 40, 0), DAY);
+        simulated(paid, 1, turn(9, 9, 16, 2, 0, 256, 40, 1), DAY);
     }
 
     private static void turnOfShare() {

@@ -63,6 +63,11 @@ final class SlotBoundaries extends Boundaries {
         Run changed = changedState(richState(promise(31, sentence)));
         changedState(run).due(40, "save", 0).due(2, "restore", 1).stateLike(saved).due(40, "restore", 0).stateLike(changed);
         run.due(2, "restore", 1).stateLike(saved);
+        // What a meal cost and who paid, when it has become free and was charged anew since.
+        Run paid = children(promise(31, sentence), 0, 0).due(500, "set", 1, 0).due(0, "share", 0, true).due(250, "pay", 1, 250);
+        paid.due(1, "order", 0, 0, true).due(1, "days", 1).due(1, "save", 0).due(250, "entitle", 0, 0, 0);
+        paid.due(250, "set", 0, 300).due(-300, "entitle", 0, 1, 1).asked(0, "meal", 0, 0, 2).due(1, "restore", 0);
+        paid.asked(1, "meal", 0, 0, 2).asked(250, "meal", 0, 0, 1).due(250, "entitle", 0, 0, 0).asked(250, "child", 1, 2);
         // The text is none of it.
         Run text = promise(31, sentence).text("Sc00").due(0, "save", 0).text("Sd").due(0, "restore", 0);
         text.asked(2, "errorPosition").due(2, "clearText");

@@ -351,8 +351,8 @@ final class TextBoundaries extends Boundaries {
     private static Run used(Run run) {
         children(run, 0, 0, 1).due(0, "share", 0, true).due(0, "share", 4, true).due(0, "menu", 0, 3).due(0, "menu", 39, 3);
         orders(orders(run, 0, 1, 2, 39), 1, 0, 1).due(250, "set", 0, 999).due(500, "set", 1, 9999);
-        run.due(7, "pay", 2, 7).due(0, "entitle", 1, 0, 39).due(4, "days", 3).due(3, "save", 0);
-        return run.due(3, "save", 1);
+        run.due(7, "pay", 2, 7).due(0, "entitle", 1, 0, 39).due(4, "days", 3);
+        return run.due(2 * 999, "writeOff", 0).due(3, "save", 0).due(3, "save", 1);
     }
 
     private static void asInANewObject() {
