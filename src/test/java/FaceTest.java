@@ -28,6 +28,7 @@ public final class FaceTest {
         constant();
         noNameTwice();
         nestedClasses();
+        sizes();
         source();
         System.exit(wrong == 0 ? 0 : 1);
     }
@@ -89,6 +90,12 @@ public final class FaceTest {
     }
 
     private static void nestedClasses() {
+        Set<String> face = new HashSet<>();
+        for (Method method : MealAccounts.class.getDeclaredMethods()) {
+            if (Modifier.isPublic(method.getModifiers())) {
+                face.add(method.getName());
+            }
+        }
         for (Class<?> nested : MealAccounts.class.getDeclaredClasses()) {
             int modifiers = nested.getModifiers();
             boolean isInside = !Modifier.isPublic(modifiers) && !Modifier.isProtected(modifiers);
@@ -96,6 +103,26 @@ public final class FaceTest {
             for (Field field : nested.getDeclaredFields()) {
                 boolean isChanging = Modifier.isStatic(field.getModifiers()) && !Modifier.isFinal(field.getModifiers());
                 test(!isChanging, field + " is static and not final");
+            }
+            for (Method method : nested.getDeclaredMethods()) {
+                test(!face.contains(method.getName()), method + " bears a name of the face");
+            }
+        }
+    }
+
+    /** Rule 11. */
+    private static void sizes() {
+        List<Class<?>> classes = new ArrayList<>(List.of(MealAccounts.class.getDeclaredClasses()));
+        classes.add(MealAccounts.class);
+        test(classes.size() <= 12, "there are more than 12 classes");
+        for (Class<?> type : classes) {
+            int fields = 0;
+            for (Field field : type.getDeclaredFields()) {
+                fields += Modifier.isStatic(field.getModifiers()) ? 0 : 1;
+            }
+            test(fields <= 20, type + " has more than 20 fields");
+            for (Method method : type.getDeclaredMethods()) {
+                test(method.getParameterCount() <= 7, method + " has more than 7 parameters");
             }
         }
     }
